@@ -1121,6 +1121,11 @@ public final class LateMover {
      * gives(m), or passes(m) and answer(m); all of them for the greatest answer, one of them for the least.
      */
     private static final class Flow {
+        static final boolean ONWARD = true;
+        static final boolean BACKWARD = false;
+        static final boolean GREATEST = true;
+        static final boolean LEAST = false;
+
         private final int[] own = new int[NODES];
         private final int[] lets = new int[NODES];
         private final int[] gives = new int[NODES];
@@ -1135,23 +1140,15 @@ public final class LateMover {
             }
         }
 
-        /** Onward: the neighbours are those to which edges lead, else those from which they come. */
-        void greatest(Graph g, int[] answer, int all, boolean onward) {
-            solve(g, answer, all, onward, true);
-        }
-
-        void least(Graph g, int[] answer, boolean onward) {
-            solve(g, answer, 0, onward, false);
-        }
-
-        private void solve(Graph g, int[] answer, int start, boolean onward, boolean every) {
-            Arrays.fill(answer, start);
+        /** The neighbours are those to which edges lead (ONWARD), or those from which they come (BACKWARD). */
+        void solve(Graph g, int[] answer, int all, boolean onward, boolean greatest) {
+            Arrays.fill(answer, greatest ? all : 0);
             boolean changed = true;
             for (int round = 0; changed && round < ROUNDS; round++) {
                 changed = false;
                 for (int i = 0; i < g.nodes; i++) {
                     int n = onward ? g.nodes - 1 - i : i;
-                    int around = every ? inAll(g, answer, n, onward, start) : inOne(g, answer, n, onward);
+                    int around = greatest ? inAll(g, answer, n, onward, all) : inOne(g, answer, n, onward);
                     int now = own[n] | (lets[n] & around);
                     changed = changed || now != answer[n];
                     answer[n] = now;
@@ -1262,7 +1259,7 @@ public final class LateMover {
             for (int n = 0; n < g.nodes; n++) {
                 flow.tell(n, oneIf(g.leads(n) == 0), 1, 0, 1);
             }
-            flow.least(g, ends, true);
+            flow.solve(g, ends, 1, Flow.ONWARD, Flow.LEAST);
             sound = g.nodesWith(ends, 1) == g.nodes;
         }
 
@@ -1270,7 +1267,7 @@ public final class LateMover {
             for (int n = 0; n < g.nodes; n++) {
                 flow.tell(n, readAt(g, n), ~Expressions.letterBit(changedAt(g, n)), 0, -1);
             }
-            flow.least(g, live, true);
+            flow.solve(g, live, -1, Flow.ONWARD, Flow.LEAST);
         }
 
         boolean isDead(Graph g, int n) {
@@ -1290,21 +1287,21 @@ public final class LateMover {
             for (int n = 0; n < g.nodes; n++) {
                 flow.tell(n, uses[n], g.leads(n) > 0 ? keeps[n] : 0, 0, all);
             }
-            flow.greatest(g, needed, all, true);
+            flow.solve(g, needed, all, Flow.ONWARD, Flow.GREATEST);
         }
 
         private void findAtHand(Graph g) {
             for (int n = 0; n < g.nodes; n++) {
                 flow.tell(n, 0, n == 0 ? 0 : all, keeps[n] & uses[n], keeps[n]);
             }
-            flow.greatest(g, atHand, all, false);
+            flow.solve(g, atHand, all, Flow.BACKWARD, Flow.GREATEST);
         }
 
         private void findMaybe(Graph g) {
             for (int n = 0; n < g.nodes; n++) {
                 flow.tell(n, 0, all, keeps[n] & uses[n], keeps[n]);
             }
-            flow.least(g, maybe, false);
+            flow.solve(g, maybe, all, Flow.BACKWARD, Flow.LEAST);
         }
 
         private void findEarly(Graph g) {
@@ -1322,7 +1319,7 @@ public final class LateMover {
             for (int n = 0; n < g.nodes; n++) {
                 flow.tell(n, early[n], n == 0 ? 0 : all, 0, ~uses[n]);
             }
-            flow.greatest(g, delayed, all, false);
+            flow.solve(g, delayed, all, Flow.BACKWARD, Flow.GREATEST);
         }
 
         private void findLate(Graph g) {
@@ -1340,7 +1337,7 @@ public final class LateMover {
             for (int n = 0; n < g.nodes; n++) {
                 flow.tell(n, 0, all, late[n], ~uses[n]);
             }
-            flow.greatest(g, alone, all, true);
+            flow.solve(g, alone, all, Flow.ONWARD, Flow.GREATEST);
         }
     }
 
@@ -1364,7 +1361,7 @@ public final class LateMover {
             for (int n = 0; n < g.nodes; n++) {
                 flow.tell(n, replaced[n], -1, 0, ~put[n]);
             }
-            flow.least(g, alive, true);
+            flow.solve(g, alive, -1, Flow.ONWARD, Flow.LEAST);
             findClashes(g);
             shareNames(g);
         }
