@@ -96,10 +96,11 @@ public final class FuzzTest {
             String sign = String.valueOf("+-*/%&<//+".charAt(below(10)));
             pool[k] = operand(letters) + sign + operand(letters);
         }
-        int blocks = 1 + below(i % 4 == 0 ? 14 : 5);
+        boolean big = i % 20 == 0;
+        int blocks = big ? 13 + below(4) : 1 + below(i % 4 == 0 ? 14 : 5);
         StringBuilder text = new StringBuilder();
         for (int b = 0; b < blocks; b++) {
-            int statements = below(i % 2 == 0 ? 5 : 3);
+            int statements = big ? 2 + below(3) : below(i % 2 == 0 ? 5 : 3);
             for (int k = 0; k < statements; k++) {
                 text.append(statement(letters, pool));
             }

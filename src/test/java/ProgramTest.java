@@ -150,6 +150,16 @@ public final class ProgramTest {
         due("behind -1", x.behind(-1), 0);
         due("lazy ends", x.run(1, 0), 0);
         due("lazy at", x.run(1, 4), 4);
+        x = Subject.of("!7;?a1,2;!8;x=a+b;.;.;");
+        x.letter(0, 1);
+        due("two written", x.run(-1, 3), 2);
+        due("the second", x.output(1), 8);
+        due("one computed", x.computed(0), 1);
+        x.letter(0, 0);
+        due("one written", x.run(-1, 3), 1);
+        due("no second", x.output(1), 0);
+        due("none computed", x.computed(0), 0);
+        due("x is as it began", x.behind(23), 0);
     }
 
     private static void longRuns() {
@@ -296,6 +306,10 @@ public final class ProgramTest {
         x = Subject.of(wide.toString());
         due("all nodes", x.is(1), 109);
         due("all edges", x.is(3), 1 + 60 + 32 + 32);
+        for (int n = 0; n < 109; n++) {
+            due("over itself " + n, x.over(n, n), 1);
+            due("FIRST over " + n, x.over(0, n), 1);
+        }
         due("far over", x.over(60, 108), 1);
         due("far itself", x.over(108, 108), 1);
         due("far not", x.over(108, 107), 0);
