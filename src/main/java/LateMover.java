@@ -1080,7 +1080,11 @@ public final class LateMover {
 
         /** Where the k-th edge to a node comes from. */
         int before(int n, int k) {
-            return k >= 0 && k < comes(n) && fromStart[n] + k < 2 * NODES ? from[fromStart[n] + k] : NONE;
+            if (!isNode(n) || k < 0 || k >= fromStart[n + 1] - fromStart[n]) {
+                return NONE;
+            }
+            int i = fromStart[n] + k;
+            return i >= 0 && i < 2 * NODES ? from[i] : NONE;
         }
 
         int edges() {
@@ -1530,7 +1534,7 @@ public final class LateMover {
             outs = 0;
             at = 0;
             ending = NONE;
-            for (int i = 0; i < STEPS && ending == NONE; i++) {
+            for (int i = 0; i < STEPS && ending == NONE && g.isNode(at); i++) {
                 step(g, by);
             }
             ending = ending == NONE ? 1 : ending;
@@ -1538,12 +1542,12 @@ public final class LateMover {
 
         private void step(Graph g, Placement by) {
             steps++;
-            if (!g.isNode(at) || g.leads(at) == 0) {
-                ending = putIn(g, by) ? 0 : 2;
-            } else if (putIn(g, by) && doNode(g, by)) {
-                at = nextNode(g);
-            } else {
+            if (!putIn(g, by) || !doNode(g, by)) {
                 ending = 2;
+            } else if (g.leads(at) == 0) {
+                ending = 0;
+            } else {
+                at = nextNode(g);
             }
         }
 

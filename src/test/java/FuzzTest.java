@@ -4,7 +4,7 @@ import java.math.BigInteger;
 public final class FuzzTest {
     private static long seed = 20261119L;
 
-    private static int below(int n) {
+    static int below(int n) {
         seed = seed * 6364136223846793005L + 1442695040888963407L;
         return (int) ((seed >>> 33) % n);
     }
@@ -89,7 +89,7 @@ public final class FuzzTest {
         return kind < 9 ? ">" + far + ";" : ".;";
     }
 
-    private static String makeProgram(int i) {
+    static String makeProgram(int i) {
         int letters = 2 + below(4);
         String[] pool = new String[1 + below(i % 3 == 0 ? 10 : 4)];
         for (int k = 0; k < pool.length; k++) {
@@ -124,7 +124,7 @@ public final class FuzzTest {
         return below(3) == 0 ? spoil(all) : all;
     }
 
-    private static String spoil(String text) {
+    static String spoil(String text) {
         String signs = "abxz0123456789+-*/%&<=!?>.,; A";
         int at = below(text.length());
         char sign = signs.charAt(below(signs.length()));
