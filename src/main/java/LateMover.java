@@ -180,9 +180,9 @@ public final class LateMover {
             case 3:
                 return graph.letter[n];
             case 4:
-                return graph.leads(n);
+                return graph.edgesFrom(n);
             case 5:
-                return graph.comes(n);
+                return graph.edgesTo(n);
             case 6:
                 return graph.first[n];
             case 7:
@@ -281,7 +281,7 @@ public final class LateMover {
             case 2:
                 return countIn(by.alive, e);
             case 3:
-                return e == NONE ? by.pairs(graph.expressions.count) : Integer.bitCount(by.clashes[e]);
+                return e == NONE ? by.clashingPairs(graph.expressions.count) : Integer.bitCount(by.clashes[e]);
             default:
                 return NONE;
         }
@@ -363,7 +363,7 @@ public final class LateMover {
         }
         sourceRun.follow(graph, unmoved, told);
         movedRun.follow(graph, placementBy(how), told);
-        return oneIf(sourceRun.isLike(movedRun));
+        return oneIf(sourceRun.endsAndWroteLike(movedRun));
     }
 
     // ---- letters, again, loops
@@ -418,7 +418,7 @@ public final class LateMover {
         Placement by = placementBy(how);
         long sum = 0;
         for (int n = 0; n < graph.nodes; n++) {
-            sum += (long) by.workAt(graph, n) * powerOfTen(loops.deep[n]);
+            sum += (long) by.computedAt(graph, n) * powerOfTen(loops.deep[n]);
         }
         return sum;
     }
@@ -662,7 +662,6 @@ public final class LateMover {
             return right[e] <= LETTERS;
         }
 
-        /** The letters in an expression, as bits. */
         int lettersOf(int e) {
             return isOne(e) ? letterBit(left[e]) | letterBit(right[e]) : 0;
         }
@@ -698,7 +697,6 @@ public final class LateMover {
         private int at;
         private int wrong;
 
-        /** The place of the fault, NONE if the text is a program. */
         int faultOf(Text given) {
             text.copyFrom(given);
             expressions.count = 0;
@@ -983,7 +981,6 @@ public final class LateMover {
             orTo[n] = read.orTo[line];
         }
 
-        /** The blocks that can be come to from block 0, as bits. */
         private static int reachedBlocks(Reader read) {
             int reached = 1;
             for (int round = 0; round < BLOCKS; round++) {
@@ -1018,15 +1015,14 @@ public final class LateMover {
         private void splitEdges() {
             int unsplit = nodes;
             for (int n = 0; n < unsplit; n++) {
-                if (leads(n) == 2) {
-                    first[n] = split(first[n]);
-                    second[n] = split(second[n]);
+                if (edgesFrom(n) == 2) {
+                    first[n] = splitIfOthersCome(first[n]);
+                    second[n] = splitIfOthersCome(second[n]);
                 }
             }
         }
 
-        /** Where an edge to a node leads when it is split: to a skip ahead of it, if others come there too. */
-        private int split(int target) {
+        private int splitIfOthersCome(int target) {
             if (comingTo(target) < 2) {
                 return target;
             }
@@ -1060,26 +1056,22 @@ public final class LateMover {
             fromStart[nodes] = next;
         }
 
-        /** How many edges lead from a node. */
-        int leads(int n) {
+        int edgesFrom(int n) {
             return isNode(n) ? oneIf(first[n] != NONE) + oneIf(second[n] != NONE) : 0;
         }
 
-        /** Where the k-th edge from a node leads. */
-        int next(int n, int k) {
+        int kthTarget(int n, int k) {
             if (!isNode(n)) {
                 return NONE;
             }
             return k == 0 ? first[n] : second[n];
         }
 
-        /** How many edges come to a node. */
-        int comes(int n) {
+        int edgesTo(int n) {
             return isNode(n) ? fromStart[n + 1] - fromStart[n] : 0;
         }
 
-        /** Where the k-th edge to a node comes from. */
-        int before(int n, int k) {
+        int kthSource(int n, int k) {
             if (!isNode(n) || k < 0 || k >= fromStart[n + 1] - fromStart[n]) {
                 return NONE;
             }
@@ -1090,7 +1082,7 @@ public final class LateMover {
         int edges() {
             int count = 0;
             for (int n = 0; n < nodes; n++) {
-                count += leads(n);
+                count += edgesFrom(n);
             }
             return count;
         }
@@ -1162,18 +1154,18 @@ public final class LateMover {
 
         private int inAll(Graph g, int[] answer, int n, boolean onward, int all) {
             int bits = all;
-            int count = onward ? g.leads(n) : g.comes(n);
+            int count = onward ? g.edgesFrom(n) : g.edgesTo(n);
             for (int k = 0; k < count; k++) {
-                bits &= side(g, answer, onward ? g.next(n, k) : g.before(n, k));
+                bits &= side(g, answer, onward ? g.kthTarget(n, k) : g.kthSource(n, k));
             }
             return bits;
         }
 
         private int inOne(Graph g, int[] answer, int n, boolean onward) {
             int bits = 0;
-            int count = onward ? g.leads(n) : g.comes(n);
+            int count = onward ? g.edgesFrom(n) : g.edgesTo(n);
             for (int k = 0; k < count; k++) {
-                bits |= side(g, answer, onward ? g.next(n, k) : g.before(n, k));
+                bits |= side(g, answer, onward ? g.kthTarget(n, k) : g.kthSource(n, k));
             }
             return bits;
         }
@@ -1223,7 +1215,7 @@ public final class LateMover {
         }
 
         private static int keptAt(Graph g, int n) {
-            int changes = Expressions.letterBit(changedAt(g, n));
+            int changes = Expressions.letterBit(letterChangedAt(g, n));
             int bits = 0;
             for (int e = 0; e < g.expressions.count; e++) {
                 boolean same = (g.expressions.lettersOf(e) & changes) == 0;
@@ -1240,12 +1232,11 @@ public final class LateMover {
             return g.kind[n] == WRITTEN || (f != e && g.expressions.isRisky(f));
         }
 
-        /** The letter that a node changes, NONE if it changes none. */
-        private static int changedAt(Graph g, int n) {
+        private static int letterChangedAt(Graph g, int n) {
             return g.kind[n] == COPY || g.kind[n] == COMPUTE ? g.letter[n] : NONE;
         }
 
-        private static int readAt(Graph g, int n) {
+        private static int lettersReadAt(Graph g, int n) {
             switch (g.kind[n]) {
                 case COPY:
                 case WRITTEN:
@@ -1261,7 +1252,7 @@ public final class LateMover {
 
         private void findSound(Graph g) {
             for (int n = 0; n < g.nodes; n++) {
-                flow.tell(n, oneIf(g.leads(n) == 0), 1, 0, 1);
+                flow.tell(n, oneIf(g.edgesFrom(n) == 0), 1, 0, 1);
             }
             flow.solve(g, ends, 1, Flow.ONWARD, Flow.LEAST);
             sound = g.nodesWith(ends, 1) == g.nodes;
@@ -1269,19 +1260,19 @@ public final class LateMover {
 
         private void findLive(Graph g) {
             for (int n = 0; n < g.nodes; n++) {
-                flow.tell(n, readAt(g, n), ~Expressions.letterBit(changedAt(g, n)), 0, -1);
+                flow.tell(n, lettersReadAt(g, n), ~Expressions.letterBit(letterChangedAt(g, n)), 0, -1);
             }
             flow.solve(g, live, -1, Flow.ONWARD, Flow.LEAST);
         }
 
         boolean isDead(Graph g, int n) {
-            int v = changedAt(g, n);
+            int v = letterChangedAt(g, n);
             if (v == NONE || g.expressions.isRisky(g.expression[n])) {
                 return false;
             }
             int behind = 0;
-            for (int k = 0; k < g.leads(n); k++) {
-                int m = g.next(n, k);
+            for (int k = 0; k < g.edgesFrom(n); k++) {
+                int m = g.kthTarget(n, k);
                 behind |= g.isNode(m) ? live[m] : 0;
             }
             return (behind & Expressions.letterBit(v)) == 0;
@@ -1289,7 +1280,7 @@ public final class LateMover {
 
         private void findNeeded(Graph g) {
             for (int n = 0; n < g.nodes; n++) {
-                flow.tell(n, uses[n], g.leads(n) > 0 ? keeps[n] : 0, 0, all);
+                flow.tell(n, uses[n], g.edgesFrom(n) > 0 ? keeps[n] : 0, 0, all);
             }
             flow.solve(g, needed, all, Flow.ONWARD, Flow.GREATEST);
         }
@@ -1311,8 +1302,8 @@ public final class LateMover {
         private void findEarly(Graph g) {
             for (int n = 0; n < g.nodes; n++) {
                 int start = n == 0 ? all : 0;
-                for (int k = 0; k < g.comes(n); k++) {
-                    int m = g.before(n, k);
+                for (int k = 0; k < g.edgesTo(n); k++) {
+                    int m = g.kthSource(n, k);
                     start |= g.isNode(m) ? ~keeps[m] | ~(needed[m] | atHand[m]) : 0;
                 }
                 early[n] = needed[n] & start;
@@ -1329,8 +1320,8 @@ public final class LateMover {
         private void findLate(Graph g) {
             for (int n = 0; n < g.nodes; n++) {
                 int onward = all;
-                for (int k = 0; k < g.leads(n); k++) {
-                    int m = g.next(n, k);
+                for (int k = 0; k < g.edgesFrom(n); k++) {
+                    int m = g.kthTarget(n, k);
                     onward &= g.isNode(m) ? delayed[m] : 0;
                 }
                 late[n] = delayed[n] & (uses[n] | ~onward);
@@ -1383,13 +1374,12 @@ public final class LateMover {
         private void shareNames(Graph g) {
             names = 0;
             for (int e = 0; e < g.expressions.count; e++) {
-                name[e] = g.nodesWith(put, 1 << e) == 0 ? NONE : firstFree(e);
+                name[e] = g.nodesWith(put, 1 << e) == 0 ? NONE : firstFreeName(e);
                 names = Math.max(names, name[e] + 1);
             }
         }
 
-        /** The first name that no expression ahead that clashes has. */
-        private int firstFree(int e) {
+        private int firstFreeName(int e) {
             int taken = 0;
             for (int f = 0; f < e; f++) {
                 if (bitOf(clashes[e], f) == 1 && name[f] != NONE) {
@@ -1403,8 +1393,7 @@ public final class LateMover {
             return free;
         }
 
-        /** How many pairs of names clash. */
-        int pairs(int count) {
+        int clashingPairs(int count) {
             int sum = 0;
             for (int e = 0; e < count && e < EXPRESSIONS; e++) {
                 sum += Integer.bitCount(clashes[e]);
@@ -1412,8 +1401,7 @@ public final class LateMover {
             return sum / 2;
         }
 
-        /** How many expressions are computed at a node. */
-        int workAt(Graph g, int n) {
+        int computedAt(Graph g, int n) {
             boolean itself = g.kind[n] == COMPUTE && replaced[n] == 0;
             return Integer.bitCount(put[n]) + oneIf(itself);
         }
@@ -1451,17 +1439,16 @@ public final class LateMover {
             for (int round = 0; changed && round < ROUNDS; round++) {
                 changed = false;
                 for (int n = 0; n < g.nodes; n++) {
-                    changed = narrow(g, n) || changed;
+                    changed = narrowsAt(g, n) || changed;
                 }
             }
         }
 
-        /** What is over all from which edges come, and the node itself; whether that is less than before. */
-        private boolean narrow(Graph g, int n) {
+        private boolean narrowsAt(Graph g, int n) {
             long low = n == 0 ? 0L : -1L;
             long high = low;
-            for (int k = 0; k < g.comes(n); k++) {
-                int m = g.before(n, k);
+            for (int k = 0; k < g.edgesTo(n); k++) {
+                int m = g.kthSource(n, k);
                 low &= g.isNode(m) ? lowOver[m] : 0L;
                 high &= g.isNode(m) ? highOver[m] : 0L;
             }
@@ -1474,8 +1461,8 @@ public final class LateMover {
         }
 
         private boolean isHead(Graph g, int n) {
-            for (int k = 0; k < g.comes(n); k++) {
-                int m = g.before(n, k);
+            for (int k = 0; k < g.edgesTo(n); k++) {
+                int m = g.kthSource(n, k);
                 if (g.isNode(m) && isOver(n, m)) {
                     return true;
                 }
@@ -1502,8 +1489,8 @@ public final class LateMover {
         }
 
         private boolean leadsInside(Graph g, int n) {
-            for (int k = 0; k < g.leads(n); k++) {
-                int m = g.next(n, k);
+            for (int k = 0; k < g.edgesFrom(n); k++) {
+                int m = g.kthTarget(n, k);
                 if (g.isNode(m) && inside[m] == 1) {
                     return true;
                 }
@@ -1544,7 +1531,7 @@ public final class LateMover {
             steps++;
             if (!putIn(g, by) || !doNode(g, by)) {
                 ending = 2;
-            } else if (g.leads(at) == 0) {
+            } else if (g.edgesFrom(at) == 0) {
                 ending = 0;
             } else {
                 at = nextNode(g);
@@ -1653,8 +1640,7 @@ public final class LateMover {
             return true;
         }
 
-        /** Whether both end alike and wrote the same. */
-        boolean isLike(Run other) {
+        boolean endsAndWroteLike(Run other) {
             if (ending != other.ending || outs != other.outs) {
                 return false;
             }
@@ -1682,7 +1668,7 @@ public final class LateMover {
 
         void count(Graph g, Placement by, int length) {
             for (int n = 0; n < g.nodes; n++) {
-                work[n] = by.workAt(g, n);
+                work[n] = by.computedAt(g, n);
                 ways[n] = 0;
             }
             found = 0;
@@ -1692,15 +1678,14 @@ public final class LateMover {
             low[0] = work[0];
             high[0] = work[0];
             for (int k = 1; k <= length; k++) {
-                arrive(g);
-                goOn(g);
+                endWaysAtLast(g);
+                goOnByOneEdge(g);
             }
         }
 
-        /** The ways that are at a last node end there. */
-        private void arrive(Graph g) {
+        private void endWaysAtLast(Graph g) {
             for (int n = 0; n < g.nodes; n++) {
-                if (ways[n] > 0 && g.leads(n) == 0) {
+                if (ways[n] > 0 && g.edgesFrom(n) == 0) {
                     least = found == 0 ? low[n] : Math.min(least, low[n]);
                     most = found == 0 ? high[n] : Math.max(most, high[n]);
                     found = Math.min(MANY, found + ways[n]);
@@ -1708,13 +1693,13 @@ public final class LateMover {
             }
         }
 
-        private void goOn(Graph g) {
+        private void goOnByOneEdge(Graph g) {
             for (int n = 0; n < g.nodes; n++) {
                 nextWays[n] = 0;
             }
             for (int n = 0; n < g.nodes; n++) {
-                for (int k = 0; ways[n] > 0 && k < g.leads(n); k++) {
-                    extend(g, n, g.next(n, k));
+                for (int k = 0; ways[n] > 0 && k < g.edgesFrom(n); k++) {
+                    extend(g, n, g.kthTarget(n, k));
                 }
             }
             swap();
@@ -1875,16 +1860,21 @@ public final class LateMover {
         private boolean isFew(int put) {
             Arrays.fill(ahead, FAR_BEHIND);
             ahead[0] = gain(put, 0);
+            // Who is ahead by more has met a node twice: going round gains, and would for ever.
+            int most = Integer.bitCount(put & ~early);
             boolean grows = true;
-            // What still grows after so many rounds gains by going round, and would grow for ever.
             for (int round = 0; grows && round <= nodes; round++) {
                 grows = false;
                 for (int n = 0; n < nodes; n++) {
+                    if (ahead[n] > most) {
+                        return false;
+                    }
                     boolean further = ahead[n] > FAR_BEHIND / 2;
                     grows = further && carry(put, n, one[n]) || grows;
                     grows = further && carry(put, n, two[n]) || grows;
                 }
             }
+            // What still grows after a round for each node gains by going round, too.
             return !grows && !endsAhead();
         }
 

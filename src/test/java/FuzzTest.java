@@ -2,6 +2,7 @@ import java.math.BigInteger;
 
 /** Programs made by a counter: every answer is compared with the Oracle's. */
 public final class FuzzTest {
+    private static final String[] TURNED = {"a+b", "a/b", "b*c", "c%a"};
     private static long seed = 20261119L;
 
     static int below(int n) {
@@ -46,6 +47,9 @@ public final class FuzzTest {
             if (fault == -1) {
                 compare(text, i);
             }
+        }
+        for (int i = 0; i < 500 && Subject.wrong() < 20; i++) {
+            compare(makeTurned(i), i);
         }
         for (int i = 0; i < 400; i++) {
             String text = makeLong(i);
@@ -107,6 +111,24 @@ public final class FuzzTest {
             text.append(end(letters, blocks, b));
         }
         return text.length() > 800 ? ".;" : text.toString();
+    }
+
+    /** A row of blocks, each leading on to one of a lower number, some back: what is solved round by round takes many. */
+    private static String makeTurned(int i) {
+        int blocks = i % 3 == 0 ? 8 + below(9) : 3 + below(6);
+        String[] bodies = new String[blocks];
+        for (int at = 0; at < blocks; at++) {
+            StringBuilder body = new StringBuilder();
+            for (int k = below(i % 3 == 0 ? 3 : 2); k > 0; k--) {
+                body.append(below(3) == 0 ? statement(3, TURNED) : "x=" + TURNED[below(2)] + ";");
+            }
+            int next = blocks - at - 1;
+            boolean forks = at > 0 && below(4) == 0;
+            String end = forks ? "?" + "abp".charAt(below(3)) + (below(3) == 0 ? below(blocks) : blocks - 1 - below(at)) + "," : ">";
+            body.append(at == blocks - 1 ? "." : end + next).append(';');
+            bodies[at == 0 ? 0 : blocks - at] = body.toString();
+        }
+        return String.join("", bodies);
     }
 
     /** Texts about the limits: many blocks, statements, expressions. */

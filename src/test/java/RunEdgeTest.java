@@ -19,6 +19,7 @@ public final class RunEdgeTest {
         output();
         behind();
         alike();
+        alikeAsIsAsked();
         live();
         dead();
         again();
@@ -28,6 +29,7 @@ public final class RunEdgeTest {
         weight();
         others();
         othersCounted();
+        othersBackwards();
         ways();
         waysCounted();
         keep();
@@ -303,6 +305,23 @@ public final class RunEdgeTest {
         }
     }
 
+    /** "End alike, WRITTEN the same": where they end, what letters are behind and what is COMPUTED may differ. */
+    private static void alikeAsIsAsked() {
+        for (char v = 'c'; v <= 'z'; v++) {
+            LateMover x = Subject.of(v + "=1;w=a/b;.;");
+            for (int how = -1; how < 2; how++) {
+                x.run(how, 0);
+                due("behind " + v + " by " + how, x.behind(v - 'a'), how == 0 ? 0 : 1);
+                due("alike in spite of " + v + " by " + how, x.alike(how), 1);
+            }
+        }
+        LateMover x = Subject.of("x=a+b;y=a+b;!y;.;");
+        for (int how = -1; how < 2; how++) {
+            due("COMPUTED by " + how, x.run(how, 2), how == -1 ? 2 : 1);
+            due("alike in spite of it by " + how, x.alike(how), 1);
+        }
+    }
+
     /** "a: 1"; "NONE: no such NODE". */
     private static void live() {
         LateMover x = Subject.of("!a;!b;!z;.;");
@@ -460,6 +479,17 @@ public final class RunEdgeTest {
         counted("?p1,2;x=a+b;.;.;", 1, 1, 1, 1);
         // HALF: ahead of the ? or on both ways.
         counted("?p1,2;x=a+b;>3;>3;y=a+b;.;", 54, 3, 4, 1);
+    }
+
+    /** "HELD, the greatest", "however often round" and LIFE where each EDGE leads to a NODE of a lower number. */
+    private static void othersBackwards() {
+        // One of the three NODES that are met once; each of the others is met as often as the loop goes round.
+        counted(">7;?p7,8;>1;>2;>3;>4;>5;>6;x=a+b;.;", 2046, 3, 1, 1);
+        counted(">7;?p7,8;x=a+b;>1;>2;>3;>4;>5;>6;.;", 510, 2, 10, 1);
+        counted(">9;x=a+b;.;>1;>2;>3;>4;>5;>6;>7;>8;", 2047, 11, 1, 1);
+        // From the first USE to the second one it lives all the way.
+        counted("x=a+b;>8;y=a+b;.;>1;>2;>3;>4;>5;>6;>7;", 1536, 2, 10, 1);
+        counted("x=a+b;>8;a=1;.;>1;>2;>3;>4;>5;>6;>7;", 3, 2, 1, 1);
     }
 
     /** "Of at most so many NODES (1 to 60 ...)"; "NONE for others, as run()". */

@@ -543,6 +543,13 @@ public final class TermsEdgeTest {
         due("its HEAD", x.depth(2), 1);
         due("within", x.depth(3), 1);
         due("behind", x.depth(4), 0);
+        // The EDGE back comes from a NODE of a lower number.
+        x = Subject.of(">3;>3;?a1,4;>2;.;");
+        due("HEAD of the highest", x.heads(), 1);
+        int[] deep = {0, 0, 1, 1, 1, 0};
+        for (int n = 0; n < 6; n++) {
+            due("DEEP backwards " + n, x.depth(n), deep[n]);
+        }
         // Two ways in: neither is OVER the other.
         due("no HEAD with two ways in", Subject.of("?a1,2;?b2,3;?c1,3;.;").heads(), 0);
         // Two LOOPS, one behind the other, and one in the other.
